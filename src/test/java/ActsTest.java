@@ -13,7 +13,11 @@ final class ActsTest {
         acrossActs();
         gets();
         getsTwoRanksAndRests();
+        getsOfPledges();
+        getsOfOneHouseOrOneCoin();
+        longConds();
         pension();
+        pensionBehindOneThatIsGone();
         Check.finish();
     }
 
@@ -91,6 +95,25 @@ final class ActsTest {
         fault("right\tstand;", 5);
         fault("right \u00e9stand;", 6);
         fault("right rank -1;", 11);
+        fault("rightz stand;", 0);
+        fault("right standz;", 6);
+        fault("right stand if heldz;", 15);
+        fault("right if held;", 6);
+        fault("right not stand;", 6);
+        fault("right claim;", 6);
+        fault("order stand;", 0);
+        fault("right stand if right;", 15);
+        fault("right stand if above 5;", 15);
+        fault("right stand if within 5;", 15);
+        fault("right stand if stand;", 15);
+        fault("right stand or fall;", 12);
+        fault("right rank 5 5;", 13);
+        fault("right stand if held if held;", 20);
+        fault("right stand if held and or held;", 24);
+        fault("right stand if (held and);", 24);
+        fault("right stand if amount above above 5;", 28);
+        fault("right rank 0010;", 11);
+        fault("right stand if order 0003;", 21);
         fault("5 stand;", 0);
         fault("right stand;".repeat(10) + "lease fall;", 120);
         fault("right stand;".repeat(10) + "  x", 122);
@@ -135,6 +158,7 @@ final class ActsTest {
         Check.due("strike(4)", x.strike(4), Check.BAD);
         Check.due("strike(-1)", x.strike(-1), Check.BAD);
         Check.due("strike(0)", x.strike(0), Check.NONE);
+        Check.due("strike(3)", x.strike(3), 1);
         Check.due("strike(2)", x.strike(2), 2);
         Check.due("version(2, 3)", x.version(2, 3), 6);
         Check.due("strike(2)", x.strike(2), Check.NONE);
@@ -355,6 +379,85 @@ final class ActsTest {
         // rank 1 takes 90 of 103; 13 of 20 that rank 4 wants: 4, 4, 3, and 2 one by one; the pledge wants nothing more
         int[] gets = {5, 5, 90, 10, 3, 0};
         for (int i = 0; i < gets.length; i++) Check.due("gets(" + i + ")", x.gets(i), gets[i]);
+    }
+
+    /** Pledges of a later RANK have what their THINGS are worth, and their parts of what is left. */
+    private static void getsOfPledges() {
+        FallenHouses x = new FallenHouses();
+        x.person(0);
+        x.house(0, 0, 50, 1);
+        x.thing(0, 0, 30);
+        x.thing(0, 0, 60);
+        x.thing(0, 0, 9);
+        Check.read(x, 0, "debt stand; debt rank 0; pledge rank 1; debt rank 2 if amount above 500;");
+        x.right(5, 0, 0, 501, 0, 0, 0, -1);
+        x.right(6, 0, 0, 130, 0, 0, 0, -1);
+        x.right(6, 0, 0, 40, 0, 0, 1, -1);
+        x.right(5, 0, 0, 39, 0, 0, 0, -1);
+        x.right(6, 0, 0, 29, 0, 0, 2, -1);
+        Check.due("fall(0)", x.fall(0), 149);
+        // 50 and the 20 that thing 1 is worth more; 39 go to rank 0, 31 are left of the 120 that rank 1 wants:
+        // 100 * 31 / 120 = 25, 20 * 31 / 120 = 5, and 1 for the first
+        int[] gets = {0, 30 + 26, 40, 39, 9 + 5};
+        for (int i = 0; i < gets.length; i++) Check.due("gets(" + i + ")", x.gets(i), gets[i]);
+    }
+
+    private static void getsOfOneHouseOrOneCoin() {
+        FallenHouses y = new FallenHouses();
+        y.person(0);
+        y.house(0, 0, 1, 1);
+        Check.read(y, 0, "debt stand;");
+        for (int i = 0; i < 3; i++) y.right(5, 0, 0, 1, 0, 0, 0, -1);
+        y.fall(0);
+        for (int i = 0; i < 3; i++) Check.due("gets(" + i + ") of 1", y.gets(i), i == 0 ? 1 : 0);
+        FallenHouses x = new FallenHouses();
+        x.person(0);
+        x.house(0, 0, 10, 1);
+        x.house(0, 0, 30, 1);
+        Check.read(x, 0, "debt stand;");
+        for (int i = 0; i < 4; i++) x.right(5, i % 2, 0, 20, 0, 0, 0, -1);
+        x.fall(0);
+        x.fall(1);
+        int[] gets = {5, 15, 5, 15};
+        for (int i = 0; i < gets.length; i++) Check.due("gets(" + i + ")", x.gets(i), gets[i]);
+    }
+
+    /** TEXTS as long as THE TAPE, each COND with as many signs as it can hold. */
+    private static void longConds() {
+        FallenHouses x = new FallenHouses();
+        x.person(0);
+        x.house(0, 2, 0, 1);
+        x.house(0, 3, 0, 1);
+        x.right(0, 0, 0, 1, 0, 0, 0, -1);
+        x.right(0, 1, 0, 1, 0, 0, 0, -1);
+        x.die(0, 0);
+        String text = "right stand if " + "held or ".repeat(34) + "order 2;";
+        for (int i = 0; i < 12; i++) Check.due("read", Check.read(x, i % 4, text), i);
+        x.days(1);
+        x.fall(0);
+        x.fall(1);
+        Check.due("why(0)", x.why(0), 1100);
+        Check.due("why(1)", x.why(1), Check.NONE);
+        FallenHouses y = new FallenHouses();
+        y.person(0);
+        y.house(0, 0, 0, 1);
+        y.right(0, 0, 0, 1, 0, 0, 0, -1);
+        Check.due("read", Check.read(y, 0, "right stand if " + "not ".repeat(67) + "held;"), 0);
+        y.fall(0);
+        Check.due("why(0), an odd number of nots", y.why(0), Check.NONE);
+    }
+
+    private static void pensionBehindOneThatIsGone() {
+        FallenHouses x = new FallenHouses();
+        x.person(0);
+        x.house(0, 0, 0, 1);
+        x.house(0, 0, 0, 1);
+        x.right(4, 0, 0, 10, 0, 3599, 0, -1);
+        x.right(4, 1, 0, 20, 100, 3599, 0, -1);
+        x.right(4, 1, 0, 40, 0, 3599, 0, -1);
+        x.fall(0);
+        Check.due("pension(0, 0)", x.pension(0, 0), 40);
+        Check.due("pension(0, 1)", x.pension(0, 1), 60);
     }
 
     private static void pension() {

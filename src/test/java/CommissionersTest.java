@@ -102,7 +102,12 @@ final class CommissionersTest {
         Check.due("no houses", x.ride(0, 1, 0), Check.BAD);
         Check.due("no houses, empty set", x.ride(0, 0, 0), Check.NONE);
         Check.due("judge()", x.judge(), Check.NONE);
-        for (int i = 0; i < 8; i++) x.house(i, 0, 0, 1);
+        for (int i = 0; i < 3; i++) x.house(i, 0, 0, 1);
+        for (int set : new int[] {8, 9, 15, 16, 128}) {
+            for (int what = 0; what < 3; what++) Check.due("ride(0, " + set + ", " + what + ")", x.ride(0, set, what), Check.BAD);
+        }
+        Check.due("judge()", x.judge(), Check.NONE);
+        for (int i = 3; i < 8; i++) x.house(i, 0, 0, 1);
         Check.due("ride(-1, 1, 0)", x.ride(-1, 1, 0), Check.BAD);
         Check.due("ride(10, 1, 0)", x.ride(10, 1, 0), Check.BAD);
         Check.due("ride(0, 1, 3)", x.ride(0, 1, 3), Check.BAD);

@@ -49,6 +49,11 @@ final class DeedsTest {
         Check.due("quarrels(2, 0)", x.quarrels(2, 0), 0);
         Check.due("quarrels(3, 0)", x.quarrels(3, 0), 0);
         Check.due("title(3, 3599, 0)", x.title(3, 3599, 0), Check.NONE);
+        x.deed(5, 3, 2, 5, 19);
+        x.deed(5, 3, 2, 6, 23);
+        Check.due("title(5, 5, 0)", x.title(5, 5, 0), 2);
+        Check.due("quarrels(5, 0)", x.quarrels(5, 0), 1);
+        Check.due("owed to 3 for field 5", x.owed(3, 5, 6, 0), 19);
         Check.due("owed to 1 on 19", x.owed(1, 1, 19, 0), 0);
         Check.due("owed to 1 on 20", x.owed(1, 1, 20, 0), 5);
         Check.due("owed to 1 on 49, not for the quarrel", x.owed(1, 1, 49, 0), 5);

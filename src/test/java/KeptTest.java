@@ -7,6 +7,8 @@ final class KeptTest {
         whatIsNotKept();
         latestIsKept();
         acts();
+        rulesOftenReadAgain();
+        newOnesBegin();
         Check.finish();
     }
 
@@ -88,6 +90,55 @@ final class KeptTest {
         x.again();
         Check.due("many(1)", x.many(1), 1);
         Check.due("person(5)", x.person(5), 1);
+    }
+
+    /** What was read and is not there any more takes no room. */
+    private static void rulesOftenReadAgain() {
+        FallenHouses x = new FallenHouses();
+        x.person(0);
+        x.house(0, 0, 0, 1);
+        x.right(0, 0, 0, 50, 0, 0, 0, -1);
+        x.die(0, 0);
+        x.days(1);
+        x.keep();
+        String text = "right fall if " + "order 1 or ".repeat(20) + "order 0;" + "alms fall;".repeat(4);
+        for (int i = 0; i < 45; i++) {
+            x.again();
+            Check.due("read", Check.read(x, 0, text), 0);
+        }
+        x.fall(0);
+        Check.due("why(0)", x.why(0), 0);
+        Check.due("read(1)", Check.read(x, 1, "right stand if not held;"), 1);
+        Check.due("why(0)", x.why(0), 100);
+    }
+
+    /** What comes anew under a number that there was is as new. */
+    private static void newOnesBegin() {
+        FallenHouses x = new FallenHouses();
+        x.person(0);
+        x.keep();
+        for (int round = 0; round < 2; round++) {
+            x.again();
+            Check.due("house", x.house(0, 0, 5, 1), 0);
+            x.house(0, 0, 0, 9);
+            x.thing(0, 1, 9);
+            x.right(2, 0, 0, 1, 0, 0, 0, -1);
+            Check.due("houseOf(0, 8)", x.houseOf(0, 8), 0);
+            Check.due("houseOf(0, 9)", x.houseOf(0, 9), Check.NONE);
+            Check.due("houseOf(0, 4)", x.houseOf(0, 4), Check.NONE);
+            Check.due("thingOf(0, 4)", x.thingOf(0, 4), 0);
+            Check.due("thingOf(0, 3)", x.thingOf(0, 3), 0);
+            Check.due("witness(0, 0)", x.witness(0, 0), 1);
+            Check.due("sealOf(0, 1)", x.sealOf(0, 1), Check.NONE);
+            Check.due("told(0, 50)", x.told(0, 50), 50);
+            Check.due("rightOf(0, 8)", x.rightOf(0, 8), Check.NONE);
+            Check.due("die(0, 9)", x.die(0, 9), 1);
+            x.value(0, 40);
+            x.fall(1);
+            x.days(1);
+            Check.due("show(0, 0)", x.show(0, 0), 1);
+            Check.due("fall(0)", x.fall(0), 5);
+        }
     }
 
     private static void acts() {

@@ -168,6 +168,11 @@ final class LandTest {
         x.road(0, 1, 2);
         x.fall(1);
         Check.due("heard of one at the same place", x.houseOf(0, 7), 1);
+        FallenHouses y = new FallenHouses();
+        y.house(0, 0, 0, 9);
+        y.house(0, 0, 0, 9);
+        y.fall(0);
+        Check.due("heard of house 0", y.houseOf(1, 7), 1);
         Check.due("heard on the road", x.houseOf(2, 7), 0);
         x.days(1);
         x.fall(2);
