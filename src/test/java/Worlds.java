@@ -37,7 +37,7 @@ final class Worlds {
         return x;
     }
 
-    /** All that is kept and can be asked, one behind the other. */
+    /** All that is kept and can be asked, one behind the other; what was asked is as it was. */
     static int[] kept(FallenHouses x) {
         List<Integer> all = new ArrayList<>();
         for (int what = 0; what <= 14; what++) {
@@ -59,6 +59,7 @@ final class Worlds {
         for (int what = 0; what < 17; what++) all.add(x.sale(30, what));
         for (int what = 0; what < 9; what++) all.add(x.order(what));
         for (int field = 0; field < 6; field++) addField(all, x, field);
+        addRoadsAndSeals(all, x);
         int[] numbers = new int[all.size()];
         for (int i = 0; i < numbers.length; i++) numbers[i] = all.get(i);
         return numbers;
@@ -72,6 +73,27 @@ final class Worlds {
         all.add(x.rank(right));
         all.add(x.gets(right));
         all.add(x.shown(right));
+    }
+
+    /** These can only be asked by setting them anew: they are set back at once. */
+    private static void addRoadsAndSeals(List<Integer> all, FallenHouses x) {
+        for (int a = 0; a < 10; a++) {
+            for (int b = 0; b < a; b++) {
+                int road = x.road(a, b, 1);
+                x.road(a, b, road);
+                all.add(road);
+            }
+        }
+        for (int seal = 0; seal < 4; seal++) {
+            int day = x.seal(seal, 0);
+            x.seal(seal, day);
+            all.add(day);
+        }
+        for (int right = 0; right < 24; right++) {
+            int seal = x.sealOf(right, -1);
+            if (seal >= 0) x.sealOf(right, seal);
+            all.add(seal);
+        }
     }
 
     private static void addField(List<Integer> all, FallenHouses x, int field) {
