@@ -225,7 +225,7 @@ final class StandsEdgesTest {
         last.fall(0);
         Check.due("why(7), the last rule of the last version", last.why(7), 1109);
         Check.due("why(3)", last.why(3), 1108);
-        Check.sentence(23, "BAD; STATE likewise; NONE: no RULE tells.");
+        Check.sentence(23, "WHY. BAD; STATE likewise; NONE: no RULE tells.");
         for (int r : Check.outside(0, 7)) Check.refused(x, Check.BAD, "why(" + r + ")", y -> y.why(r));
         Check.refused(last, Check.NONE, "why(0), no rule", y -> y.why(0));
         FallenHouses not = rights("right stand;");
@@ -252,7 +252,7 @@ final class StandsEdgesTest {
         acts.fall(0);
         acts.strike(2);
         Check.due("by their acts' numbers, struck on that day", acts.rank(5), 4);
-        Check.sentence(24, "BAD; STATE likewise.");
+        Check.sentence(24, "RANK. BAD; STATE likewise.");
         for (int r : Check.outside(0, 7)) Check.refused(x, Check.BAD, "rank(" + r + ")", y -> y.rank(r));
         FallenHouses not = rights("right rank 3;");
         Check.refused(not, Check.STATE, "rank(0), not fallen", y -> y.rank(0));
@@ -374,7 +374,7 @@ final class StandsEdgesTest {
     }
 
     private static void getsRefused() {
-        Check.sentence(25, "BAD: there is no such RIGHT; STATE: its HOUSE hasn't FALLEN, it is no debt or pledge, or doesn't STAND.");
+        Check.sentence(25, "GETS of a DEBT. BAD: there is no such RIGHT; STATE: its HOUSE hasn't FALLEN, it is no debt or pledge, or doesn't STAND.");
         FallenHouses x = rights("right stand; debt fall if order 0;");
         x.thing(1, 0, 9);
         x.right(5, 1, 0, 50, 0, 0, 0, -1);
@@ -419,8 +419,8 @@ final class StandsEdgesTest {
             Check.due("born on " + c[0] + ", in quarter " + c[1], x.pension(0, c[1]), 5);
             if (c[1] > 0) Check.due("born on " + c[0] + ", in the quarter ahead", x.pension(0, c[1] - 1), 0);
         }
-        Check.sentence(26, "the sum of AMOUNTS of pensions that they hold and that are not GONE on its last DAY, FROM not above and TO not "
-            + "below that DAY, if they are ALIVE then.");
+        Check.sentence(26, "PENSION of a PERSON in a QUARTER: the sum of AMOUNTS of pensions that they hold and that are not GONE on its "
+            + "last DAY, FROM not above and TO not below that DAY, if they are ALIVE then.");
         FallenHouses x = new FallenHouses();
         x.person(0);
         x.person(0);
