@@ -613,7 +613,7 @@ public final class FallenHouses {
         Table(int limit, int width) {
             this.limit = limit;
             this.width = width;
-            this.cells = new int[limit * width];
+            this.cells = new int[limit > 0 && width > 0 ? limit * width : 0];
         }
 
         boolean has(int row) {

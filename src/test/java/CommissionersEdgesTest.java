@@ -203,6 +203,12 @@ final class CommissionersEdgesTest {
         Check.due("the longer way is in time", y.ride(0, 3, 2), 10000010);
         Check.due("in time", y.ride(0, 3, 0), 2);
         Check.due("days", y.ride(0, 3, 1), 42);
+        y.due(1, 3599);
+        y.due(0, 7);
+        // now the first way that is tried is the best one, and the other comes late at its end
+        Check.due("the first way", y.ride(0, 3, 2), 10000001);
+        Check.due("in time", y.ride(0, 3, 0), 2);
+        y.due(1, 20);
         y.due(0, 40);
         Check.due("one only in time either way", y.ride(0, 3, 0), 1);
         Check.due("the shorter way", y.ride(0, 3, 2), 10000001);

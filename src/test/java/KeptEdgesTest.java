@@ -8,6 +8,7 @@ final class KeptEdgesTest {
         notKept();
         latest();
         stays();
+        anew();
         refused();
         Check.finish();
     }
@@ -161,6 +162,35 @@ final class KeptEdgesTest {
             Check.due("houseOf(0, 4)", x.houseOf(0, 4), Check.NONE);
             Check.due("again() again", x.again(), 1);
             Check.due("many(0)", x.many(0), 3);
+        }
+    }
+
+    /** What comes anew under a number that there was is as new. */
+    private static void anew() {
+        Check.sentence(59, "It becomes what was kept latest");
+        FallenHouses x = new FallenHouses();
+        x.person(0);
+        x.keep();
+        for (int round = 0; round < 2; round++) {
+            Check.due("house", x.house(0, 0, 5, 1), 0);
+            x.house(0, 0, 0, 9);
+            x.thing(0, 1, 9);
+            x.right(2, 0, 0, 1, 0, 0, 0, -1);
+            Check.due("houseOf(0, 8)", x.houseOf(0, 8), 0);
+            Check.due("houseOf(0, 9)", x.houseOf(0, 9), Check.NONE);
+            Check.due("thingOf(0, 4)", x.thingOf(0, 4), 0);
+            Check.due("witness(0, 0)", x.witness(0, 0), 1);
+            Check.due("sealOf(0, 1)", x.sealOf(0, 1), Check.NONE);
+            Check.due("told(0, 50)", x.told(0, 50), 50);
+            x.value(0, 40);
+            x.fall(1);
+            x.days(1);
+            Check.due("show(0, 0)", x.show(0, 0), 1);
+            Check.due("read(0)", Check.read(x, 0, round == 0 ? "alms rank 3 if held;" : "lease stand; lease fall if not held;"), 0);
+            x.days(1);
+            x.fall(0);
+            Check.due("stands(0)", x.stands(0), round);
+            Check.due("again()", x.again(), 1);
         }
     }
 

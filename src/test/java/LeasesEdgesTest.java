@@ -245,6 +245,27 @@ final class LeasesEdgesTest {
         x.witness(0, 2);
         Check.due("both", x.shown(0), 3);
         Check.due("the other lease, on day 200", x.shown(1), 0);
+        FallenHouses y = leases();
+        y.witness(0, 1);
+        y.stay(1, 0, 100);
+        y.stay(1, 1, 100);
+        Check.due("one alone, at two places at once", y.shown(0), 0);
+        y.stay(0, 3, 100);
+        y.stay(3, 4, 100);
+        Check.due("beside those who are no witnesses", y.shown(0), 0);
+        y = leases();
+        for (int i = 1; i < 4; i++) y.witness(0, i);
+        for (int i = 1; i < 4; i++) y.stay(i, 2, 100);
+        y.stay(0, 3, 100);
+        y.stay(4, 5, 100);
+        Check.due("three at one place, others elsewhere", y.shown(0), 0);
+        y = leases();
+        y.witness(0, 1);
+        y.witness(0, 1);
+        y.stay(1, 0, 100);
+        Check.due("one who is a witness twice", y.shown(0), 0);
+        y.stay(1, 1, 100);
+        Check.due("one who is a witness twice, at two places at once", y.shown(0), 3);
     }
 
     private static void farWitnessesOfThree() {

@@ -238,6 +238,16 @@ final class SalesEdgesTest {
         int[][] then = {{4, -3}, {5, 2}, {10, 2}, {20, 3}, {30, 3}};
         for (int[] t : then) Check.due("title(0, " + t[0] + ", 0)", x.title(0, t[0], 0), t[1]);
         Check.due("quarrels(0, 0)", x.quarrels(0, 0), 4);
+        FallenHouses back = persons(5);
+        for (int i = 4; i > 0; i--) back.deed(0, i - 1, i, 10 * i, 0);
+        for (int i = 1; i <= 4; i++) {
+            Check.due("title(0, " + (10 * i) + ", 0), from the last day to the first", back.title(0, 10 * i, 0), i);
+        }
+        Check.due("quarrels(0, 0)", back.quarrels(0, 0), 0);
+        FallenHouses between = persons(5);
+        for (int i : new int[] {1, 4, 2, 3}) between.deed(0, i - 1, i, 10 * i, 0);
+        for (int i = 1; i <= 4; i++) Check.due("title(0, " + (10 * i) + ", 0), one comes between", between.title(0, 10 * i, 0), i);
+        Check.due("quarrels(0, 0)", between.quarrels(0, 0), 0);
         x.deed(0, 0, 1, 5, 0);
         Check.due("on the same day, but with a higher number", x.title(0, 5, 0), 2);
         Check.due("quarrels(0, 0)", x.quarrels(0, 0), 5);

@@ -338,6 +338,8 @@ final class StandsEdgesTest {
         shares(5, "debt stand;", new int[] {3, 3, 3}, 2, 2, 1);
         // 0, 4 and 4: one left for the first, that has none yet
         shares(9, "debt stand;", new int[] {1, 9, 9}, 1, 4, 4);
+        // what is left goes to none of another rank, though its number is the least
+        shares(201, "debt stand; debt rank 1; debt rank 0 if amount above 100;", new int[] {5, 201, 201, 5}, 0, 101, 100, 0);
         shares(998, "debt stand;", new int[] {999, 999, 999}, 333, 333, 332);
         // a pledge that has all that it wants is passed over
         FallenHouses x = new FallenHouses();

@@ -142,6 +142,8 @@ final class TextEdgesTest {
         fault("right;", 5);
         fault("right if held;", 6);
         fault("right stand fall;", 12);
+        fault("right claim;", 6);
+        fault("right not;", 6);
         fault("right stand 3;", 12);
         fault("right rank;", 10);
         fault("right rank if held;", 11);
@@ -192,6 +194,12 @@ final class TextEdgesTest {
             "5", "held, held", "if held"};
         int[] at = {0, 0, 7, 8, 8, 9, 5, 5, 3, 4, 5, 4, 1, 8, 6, 5, 6, 7, 12, 7, 6, 6, 12, 0, 0, 0, 0, 5, 3, 0, 4, 0};
         for (int i = 0; i < wrong.length; i++) fault("right stand if " + wrong[i] + ";", 15 + at[i]);
+        String[] early = {"amount", "dated", "order", "not", "(", "((", "not (", "held and (", "held or not"};
+        for (String begun : early) {
+            for (String end : new String[] {";", " and held;", " or held;"}) {
+                fault("right stand if " + begun + end, 15 + begun.length() + (end.length() > 1 ? 1 : 0));
+            }
+        }
     }
 
     private static void numbers() {
@@ -224,6 +232,10 @@ final class TextEdgesTest {
         fault("right stand if notheld;", 15);
         fault("right stand if held orheld;", 20);
         fault("rig ht stand;", 0);
+        fault("rightz stand;", 0);
+        fault("zright stand;", 0);
+        fault("right astand;", 6);
+        fault("right standa;", 6);
         fault("right stand if amount above 9 9;", 30);
         fault("right stand if amountabove 9;", 15);
         fault("Right stand;", 0);
