@@ -1178,7 +1178,7 @@ public final class FallenHouses {
         private void split() {
             tokens.cut(0);
             int place = 0;
-            while (place < length) {
+            for (int i = 0; i < TAPE_BYTES && place < length; i++) {
                 int sign = signAt(place);
                 int end = endOfRow(place);
                 if (isLetter(sign)) {

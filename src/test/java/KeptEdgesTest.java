@@ -9,6 +9,7 @@ final class KeptEdgesTest {
         latest();
         stays();
         anew();
+        fewerThanBefore();
         refused();
         Check.finish();
     }
@@ -192,6 +193,34 @@ final class KeptEdgesTest {
             Check.due("stands(0)", x.stands(0), round);
             Check.due("again()", x.again(), 1);
         }
+    }
+
+    /** What was reckoned of more HOUSES, LOTS and RIGHTS is not left over. */
+    private static void fewerThanBefore() {
+        Check.sentence(59, "It becomes what was kept latest");
+        FallenHouses x = new FallenHouses();
+        x.person(0);
+        for (int i = 0; i < 2; i++) x.house(i, 0, 9, 9);
+        x.right(1, 0, 0, 7, 0, 0, 0, -1);
+        x.lot(5);
+        x.buyer(5);
+        x.keep();
+        for (int i = 2; i < 8; i++) x.house(i, 0, 0, 9);
+        for (int i = 2; i < 8; i++) x.right(1, i, 0, 900, 0, 0, 0, -1);
+        for (int i = 0; i < 6; i++) x.lot(50);
+        x.buyer(300);
+        Check.due("order(0) of eight", x.order(0), 900 * (2 + 3 + 4 + 5 + 6 + 7) + 7);
+        Check.due("sale(0, 1) of seven", x.sale(0, 1), 305);
+        Check.due("ride(0, 254, 0)", x.ride(0, 254, 0), 7);
+        x.again();
+        Check.due("order(0)", x.order(0), 7);
+        Check.due("order(1)", x.order(1), 1);
+        Check.due("order(2)", x.order(2), 0);
+        Check.due("sale(0, 1)", x.sale(0, 1), 5);
+        Check.due("sale(6, 1)", x.sale(6, 1), Check.NONE);
+        Check.due("ride(0, 3, 1)", x.ride(0, 3, 1), 7);
+        Check.due("ride(0, 4, 1), not there any more", x.ride(0, 4, 1), Check.BAD);
+        Check.due("many(10)", x.many(10), 2);
     }
 
     private static void refused() {
