@@ -163,6 +163,27 @@ final class StandsEdgesTest {
         cond("order 2 and order 2 and order 1", 0);
         cond("((((order 2))))", 1);
         cond("((((order 1)or order 2)and order 2)and not order 3)", 1);
+        // order 2 and held hold, order 1 doesn't
+        for (int a = 0; a < 2; a++) {
+            for (int b = 0; b < 2; b++) {
+                for (int c = 0; c < 2; c++) joined(a, b, c);
+            }
+        }
+    }
+
+    private static void joined(int a, int b, int c) {
+        String[] ask = {"order 1", "order 2"};
+        cond(ask[a] + " or not " + ask[b], a | 1 - b);
+        cond("not " + ask[a] + " or " + ask[b], 1 - a | b);
+        cond(ask[a] + " and not " + ask[b], a & 1 - b);
+        cond("not " + ask[a] + " and " + ask[b], 1 - a & b);
+        cond("not(" + ask[a] + " or " + ask[b] + ")", 1 - (a | b));
+        cond(ask[a] + " or not(" + ask[b] + " and " + ask[c] + ")", a | 1 - (b & c));
+        cond(ask[a] + " or " + ask[b] + " and not " + ask[c], a | b & 1 - c);
+        cond(ask[a] + " and " + ask[b] + " or not " + ask[c], a & b | 1 - c);
+        cond("(" + ask[a] + " or not " + ask[b] + ")and " + ask[c], (a | 1 - b) & c);
+        cond("not " + ask[a] + " or not " + ask[b] + " or not " + ask[c], 1 - a | 1 - b | 1 - c);
+        cond("not not " + ask[a] + " and not not not " + ask[b] + " or " + ask[c], a & 1 - b | c);
     }
 
     private static void versionsInForce() {

@@ -257,6 +257,17 @@ final class TextEdgesTest {
         for (int sign : new int[] {0, 9, 10, 13, 31, 33, 160, 255}) fault("right" + (char) sign + "stand;", 5);
         fault("right\tstand;", 5);
         fault("right stand\n;", 11);
+        // no byte but the blank stands where a KIND, a NUMBER, a COND, ; or nothing may
+        for (int sign = 0; sign < 256; sign++) {
+            if (sign == ' ') continue;
+            fault((char) sign + " stand;", 0);
+            if (sign != ';') fault("right stand " + (char) sign, 12);
+            if (sign != ';') fault("right rank 9 " + (char) sign + ";", 13);
+            if (sign < '0' || sign > '9') fault("right rank " + (char) sign + ";", 11);
+            if (sign != '(') fault("right stand if " + (char) sign + ";", 15);
+            if (sign != ';') fault("right stand if held " + (char) sign, 20);
+            fault("right stand;" + (char) sign, 12);
+        }
     }
 
     private static void brackets() {
